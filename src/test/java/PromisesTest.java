@@ -26,14 +26,19 @@ public final class PromisesTest {
         sand();
         plan();
         planByReach();
+        planManyApart();
+        planTen();
         planNone();
         poured();
         photoAndSmear();
         cat();
         back();
         mend();
+        mendBare();
         harm();
+        harmInTheMiddle();
         again();
+        againDownward();
         bar();
         way();
         heap();
@@ -127,6 +132,11 @@ public final class PromisesTest {
         // at u 1 the string lies half way between v 0 and v 1: both count
         DUE.is(4, "half way", x.line(1, 0, 0, 2, 1), 4);
         DUE.is(4, "told(4, 2)", x.told(4, 2), 16);
+        // away from the middle the same string has the same width: by differences, not by sums
+        DUE.is(4, "away from the middle", x.line(1, 4, 6, 7, 7), 5);
+        DUE.is(4, "told(5, 2)", x.told(5, 2), 16);
+        DUE.is(4, "away from the middle, upright", x.line(1, 6, 4, 7, 7), 6);
+        DUE.is(4, "told(6, 2)", x.told(6, 2), 16);
         for (int wrong : new int[] {LEAST, -1, 8, MOST}) {
             DUE.is(4, "line a", x.line(1, wrong, 0, 0, 0), BAD);
             DUE.is(4, "line b", x.line(1, 0, wrong, 0, 0), BAD);
@@ -417,6 +427,65 @@ public final class PromisesTest {
         DUE.is(19, "poured(4)", x.poured(4), BAD);
     }
 
+    /** 0 reaches far; 1, 2 and 3 come AFTER it, and 4 ahead of none: one DAY for 0 and what may go with it. */
+    private static void planManyApart() {
+        SandPalace x = new SandPalace();
+        x.rim(1, 4);
+        x.rim(1, 3);
+        x.rim(1, 2);
+        x.rim(1, 1);
+        x.rim(1, 0);
+        x.sand(256);
+        x.hem(1, 0, true);
+        x.hem(2, 0, true);
+        x.hem(3, 0, true);
+        DUE.is(17, "days()", x.days(), 2);
+        DUE.is(18, "day(0)", x.day(0), 16 + 1);
+        DUE.is(18, "day(1)", x.day(1), 8 + 4 + 2);
+        x.hem(3, 1, true);
+        x.hem(3, 2, true);
+        x.hem(2, 1, true);
+        DUE.is(17, "one behind the other", x.days(), 4);
+        int[] days = {16 + 1, 2, 4, 8};
+        int[] order = {4, 0, 1, 2, 3};
+        for (int i = 0; i < 4; i++) {
+            DUE.is(18, "day(" + i + ")", x.day(i), days[i]);
+        }
+        for (int i = 0; i < 5; i++) {
+            DUE.is(19, "poured(" + i + ")", x.poured(i), order[i]);
+        }
+    }
+
+    /** Ten of 4 cells each, side by side: the most SHAPES, and the most DAYS. */
+    private static void planTen() {
+        SandPalace x = new SandPalace();
+        for (int s = 0; s < 10; s++) {
+            x.block(1, s % 8, s / 8, s % 8, s / 8);
+        }
+        DUE.is(17, "days()", x.days(), 1);
+        DUE.is(18, "day(0)", x.day(0), 1023);
+        int[] byReach = {0, 1, 8, 9, 2, 3, 4, 5, 6, 7};
+        for (int i = 0; i < 10; i++) {
+            DUE.is(19, "poured(" + i + ")", x.poured(i), byReach[i]);
+        }
+        DUE.is(19, "poured(10)", x.poured(10), BAD);
+        x.sand(4);
+        DUE.is(17, "days()", x.days(), 10);
+        for (int i = 0; i < 10; i++) {
+            DUE.is(18, "day(" + i + ")", x.day(i), 1 << 9 - i);
+            DUE.is(19, "poured(" + i + ")", x.poured(i), 9 - i);
+        }
+        DUE.is(18, "day(10)", x.day(10), BAD);
+        x.sand(12);
+        DUE.is(17, "days()", x.days(), 4);
+        int[] threes = {896, 112, 14, 1};
+        for (int i = 0; i < 4; i++) {
+            DUE.is(18, "day(" + i + ")", x.day(i), threes[i]);
+        }
+        x.sand(3);
+        DUE.is(17, "days()", x.days(), NONE);
+    }
+
     private static void planNone() {
         SandPalace x = new SandPalace();
         x.rim(1, 3);
@@ -597,6 +666,14 @@ public final class PromisesTest {
         DUE.is(25, "seen(7, 7)", x.seen(7, 7), 9);
     }
 
+    private static void mendBare() {
+        SandPalace x = new SandPalace();
+        x.smear(3, 4);
+        DUE.is(25, "a bare cell", x.mend(), 1);
+        DUE.is(25, "seen(3, 4)", x.seen(3, 4), 0);
+        DUE.is(25, "harm(0)", x.harm(0), 0);
+    }
+
     private static void harm() {
         SandPalace x = new SandPalace();
         x.rim(2, 7);
@@ -623,6 +700,18 @@ public final class PromisesTest {
         }
     }
 
+    private static void harmInTheMiddle() {
+        SandPalace x = new SandPalace();
+        x.rim(5, 0);
+        DUE.is(26, "OFF", x.harm(1), 4);
+        x.smear(8, 8);
+        x.smear(7, 8);
+        x.smear(7, 7);
+        x.smear(8, 7);
+        DUE.is(26, "LOST", x.harm(2), 4);
+        DUE.is(26, "OFF", x.harm(1), 0);
+    }
+
     private static void again() {
         SandPalace x = new SandPalace();
         x.rim(1, 1);
@@ -645,6 +734,29 @@ public final class PromisesTest {
         DUE.is(27, "cut", x.again(), 3);
         x.photo();
         DUE.is(27, "again()", x.again(), 0);
+        x.hem(2, 4, false);
+        x.smear(0, 0);
+        DUE.is(27, "a corner: 3, then 4", x.again(), 8 + 16);
+        x.smear(4, 4);
+        DUE.is(27, "and 1, that has no cell of these", x.again(), 8 + 16 + 2);
+        x.smear(13, 8);
+        DUE.is(27, "and 2", x.again(), 8 + 16 + 2 + 4);
+    }
+
+    /** Each HEM leads to the SHAPE told ahead, so that the last of them is found last. */
+    private static void againDownward() {
+        SandPalace x = new SandPalace();
+        for (int k = 0; k < 8; k++) {
+            x.rim(1, k);
+        }
+        for (int s = 0; s < 7; s++) {
+            x.hem(s, s + 1, true);
+        }
+        x.smear(0, 0);
+        DUE.is(27, "all eight", x.again(), 255);
+        x.photo();
+        x.smear(4, 4);
+        DUE.is(27, "0 to 3", x.again(), 15);
     }
 
     private static void bar() {
@@ -735,8 +847,10 @@ public final class PromisesTest {
         DUE.is(32, "a new row is of noughts", x.sheet(1, 1, 3), 3);
         DUE.is(32, "show", x.show(1, 1, 2, 0, 1), 1);
         DUE.is(32, "seen(0, 0)", x.seen(0, 0), 0);
-        x.sheet(1, 1, 2);
+        x.item(1, 1, 0, 8);
         x.sheet(1, 1, 3);
+        x.show(1, 1, 0, 0, 1);
+        DUE.is(32, "a nought first", x.seen(0, 0), 0);
         DUE.is(32, "of another LANE", x.sheet(1, 0, 3), 3);
         DUE.is(32, "item", x.item(1, 1, 0, 0), CAST);
     }
