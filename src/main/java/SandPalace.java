@@ -167,7 +167,7 @@ public final class SandPalace {
         if (!picture.areTwo(shape, other)) {
             return BAD;
         }
-        return picture.comesAfter(shape) >> other & 1;
+        return (picture.comesAfter(shape) >> other) & 1;
     }
 
     public int sand(int n) {
@@ -210,7 +210,7 @@ public final class SandPalace {
     }
 
     public int cat(int x, int y, int dx, int dy, int n) {
-        if (!isCell(x, y) || !within(dx, -1, 1) || !within(dy, -1, 1) || dx == 0 && dy == 0 || !within(n, 0, SIDE - 1)) {
+        if (!isCell(x, y) || !isStride(dx, dy) || !within(n, 0, SIDE - 1)) {
             return BAD;
         }
         int smeared = 0;
@@ -374,6 +374,10 @@ public final class SandPalace {
         return within(x, 0, SIDE - 1) && within(y, 0, SIDE - 1);
     }
 
+    private static boolean isStride(int dx, int dy) {
+        return within(dx, -1, 1) && within(dy, -1, 1) && (dx != 0 || dy != 0);
+    }
+
     private static boolean arePlaces(int a, int b, int c, int d) {
         return within(a, 0, HALF - 1) && within(b, 0, HALF - 1) && within(c, 0, HALF - 1) && within(d, 0, HALF - 1);
     }
@@ -441,7 +445,7 @@ public final class SandPalace {
         }
 
         boolean isAt(int place) {
-            return (places >>> place & 1L) != 0L;
+            return ((places >>> place) & 1L) != 0L;
         }
 
         int reach() {
@@ -515,7 +519,7 @@ public final class SandPalace {
             for (int v = Math.min(b, d); v <= Math.max(b, d); v++) {
                 for (int u = Math.min(a, c); u <= Math.max(a, c); u++) {
                     if (2 * Math.abs((u - a) * (d - b) - (v - b) * (c - a)) <= greater) {
-                        places |= 1L << HALF * v + u;
+                        places |= 1L << (HALF * v + u);
                     }
                 }
             }
@@ -541,7 +545,7 @@ public final class SandPalace {
             long places = 0L;
             for (int v = Math.min(b, d); v <= Math.max(b, d); v++) {
                 for (int u = Math.min(a, c); u <= Math.max(a, c); u++) {
-                    places |= 1L << HALF * v + u;
+                    places |= 1L << (HALF * v + u);
                 }
             }
             return places;
@@ -603,7 +607,7 @@ public final class SandPalace {
         }
 
         boolean hems(int shape, int other) {
-            return (hemmed[shape] >> other & 1) != 0;
+            return ((hemmed[shape] >> other) & 1) != 0;
         }
 
         void setHem(int shape, int other, boolean is) {
@@ -818,7 +822,7 @@ public final class SandPalace {
             }
             for (int s = 0; s < count; s++) {
                 for (int other = 0; other < count; other++) {
-                    if ((ahead[s] >> other & 1) != 0 && reach[other] > reach[s]) {
+                    if (((ahead[s] >> other) & 1) != 0 && reach[other] > reach[s]) {
                         apart[s] |= 1 << other;
                         apart[other] |= 1 << s;
                     }
@@ -831,7 +835,7 @@ public final class SandPalace {
             load[0] = 0;
             for (int set = 1; set <= all; set++) {
                 int least = Integer.numberOfTrailingZeros(set);
-                int rest = set & set - 1;
+                int rest = set & (set - 1);
                 needed[set] = needed[rest] | ahead[least];
                 load[set] = (rest & apart[least]) != 0 ? TOO_MUCH : load[rest] + weight[least];
             }
@@ -848,7 +852,7 @@ public final class SandPalace {
             int bound = boundFrom(done);
             int best = MANY_DAYS;
             int left = all & ~done;
-            for (int set = left; set > 0 && best > bound; set = set - 1 & left) {
+            for (int set = left; set > 0 && best > bound; set = (set - 1) & left) {
                 if (load[set] <= sandOfDay) {
                     best = Math.min(best, 1 + fewest[done | set]);
                 }
@@ -860,7 +864,7 @@ public final class SandPalace {
         private int boundFrom(int done) {
             int bound = 1;
             for (int s = 0; s < count; s++) {
-                int more = done | 1 << s;
+                int more = done | (1 << s);
                 if (more != done && fewest[more] < MANY_DAYS) {
                     bound = Math.max(bound, fewest[more]);
                 }
@@ -878,7 +882,7 @@ public final class SandPalace {
 
         private int greatestDay(int done) {
             int left = all & ~done;
-            for (int set = left; set > 0; set = set - 1 & left) {
+            for (int set = left; set > 0; set = (set - 1) & left) {
                 if (load[set] <= sandOfDay && fewest[done | set] == fewest[done] - 1) {
                     return set;
                 }
@@ -901,7 +905,7 @@ public final class SandPalace {
         private int nextOf(int left) {
             int next = -1;
             for (int s = 0; s < count; s++) {
-                boolean free = (left >> s & 1) != 0 && (ahead[s] & left) == 0;
+                boolean free = ((left >> s) & 1) != 0 && (ahead[s] & left) == 0;
                 if (free && (next < 0 || reach[s] < reach[next])) {
                     next = s;
                 }
@@ -1071,7 +1075,7 @@ public final class SandPalace {
         }
 
         private static boolean isOpen(int field, int open) {
-            return (open >> field & 1) != 0;
+            return ((open >> field) & 1) != 0;
         }
 
         /** Neighbours are tried from the least on, so that the first WAY found is the first by fields. */
@@ -1085,12 +1089,14 @@ public final class SandPalace {
                 return true;
             }
             int column = field % FIELDS_A_ROW;
-            int next = place + 1;
-            return field >= FIELDS_A_ROW && isOpen(field - FIELDS_A_ROW, left) && goesOn(way, next, field - FIELDS_A_ROW, left)
-                || column > 0 && isOpen(field - 1, left) && goesOn(way, next, field - 1, left)
-                || column < FIELDS_A_ROW - 1 && isOpen(field + 1, left) && goesOn(way, next, field + 1, left)
-                || field < FIELDS - FIELDS_A_ROW && isOpen(field + FIELDS_A_ROW, left)
-                    && goesOn(way, next, field + FIELDS_A_ROW, left);
+            boolean found = field >= FIELDS_A_ROW && triesOn(way, place, field - FIELDS_A_ROW, left);
+            found = found || column > 0 && triesOn(way, place, field - 1, left);
+            found = found || column < FIELDS_A_ROW - 1 && triesOn(way, place, field + 1, left);
+            return found || field < FIELDS - FIELDS_A_ROW && triesOn(way, place, field + FIELDS_A_ROW, left);
+        }
+
+        private static boolean triesOn(int[] way, int place, int next, int left) {
+            return isOpen(next, left) && goesOn(way, place + 1, next, left);
         }
     }
 
@@ -1121,7 +1127,7 @@ public final class SandPalace {
             return had;
         }
 
-        /** What the machine would find with n items from one on, or 0. By a difference, since from + n could wrap around. */
+        /** What the machine would find, or 0. By a difference, since from + n could wrap around. */
         int refusal(int lane, int from, int n) {
             if (isMissing()) {
                 return NULL;

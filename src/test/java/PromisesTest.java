@@ -320,6 +320,8 @@ public final class PromisesTest {
         DUE.is(13, "unlike() covered", x.unlike(), 2);
         x.sign(5, 7, 7, 7, 7, 0);
         DUE.is(13, "unlike() with STEP 0", x.unlike(), 2);
+        x.sign(5, 6, 6, 6, 6, 1);
+        DUE.is(13, "unlike() with STEP 1: all three", x.unlike(), 2 + 3);
         for (int wrong : new int[] {LEAST, -1, 10, MOST}) {
             DUE.is(12, "count", x.count(wrong), BAD);
         }
@@ -508,6 +510,10 @@ public final class PromisesTest {
         DUE.is(17, "days()", x.days(), 2);
         x.sand(255);
         DUE.is(18, "day(0)", x.day(0), NONE);
+        SandPalace y = new SandPalace();
+        y.block(1, 0, 0, 7, 7);
+        y.rim(1, 0);
+        DUE.is(17, "the first SHAPE above SAND", y.days(), NONE);
     }
 
     private static void poured() {
