@@ -4,6 +4,7 @@ import java.util.Random;
 public final class DifferentialTest {
     private static final int RUNS = 400;
     private static final int CALLS = 512;
+    private static final int PLANS = 600;
     private static final int[] EDGES = {Integer.MIN_VALUE, Integer.MIN_VALUE + 1, -257, -17, -6, -5, -2, -1, 0, 1, 7, 8, 9, 10,
         15, 16, 17, 255, 256, 257, 450, 451, 65535, 65536, Integer.MAX_VALUE - 1, Integer.MAX_VALUE};
 
@@ -33,7 +34,42 @@ public final class DifferentialTest {
                 test.call();
             }
         }
+        for (int run = 0; run < PLANS; run++) {
+            new DifferentialTest(RUNS + run, due).plans();
+        }
         due.end();
+    }
+
+    /** Chance calls seldom come to a PLAN that HEMS, REACH and SAND shape together: here HEMS never go round. */
+    private void plans() {
+        int count = 2 + run % 9;
+        int most = 1;
+        int[] rank = new int[count];
+        for (int s = 0; s < count; s++) {
+            int a = chance.nextInt(8), b = chance.nextInt(8);
+            int c = Math.min(7, a + chance.nextInt(3)), d = Math.min(7, b + chance.nextInt(3));
+            is(5, "block" + tell(1, a, b, c, d), quick.block(1, a, b, c, d), plain.block(1, a, b, c, d));
+            most = Math.max(most, plain.told(s, 2));
+            rank[s] = chance.nextInt(100);
+        }
+        for (int i = chance.nextInt(2 * count); i > 0; i--) {
+            int s = chance.nextInt(count), o = chance.nextInt(count);
+            boolean keepsOrder = plain.after(o, s) == 0 && rank[s] > rank[o];
+            is(14, "hem" + tell(s, o), quick.hem(s, o, keepsOrder), plain.hem(s, o, keepsOrder));
+        }
+        for (int sand = most; sand <= 256; sand += 1 + chance.nextInt(40)) {
+            is(16, "sand" + tell(sand), quick.sand(sand), plain.sand(sand));
+            int days = plain.days();
+            is(17, "days()", quick.days(), days);
+            for (int i = 0; i <= days; i++) {
+                is(18, "day" + tell(i), quick.day(i), plain.day(i));
+            }
+            if (sand % 3 == 0) {
+                for (int i = 0; i <= count; i++) {
+                    is(19, "poured" + tell(i), quick.poured(i), plain.poured(i));
+                }
+            }
+        }
     }
 
     private int from(int a, int b) {

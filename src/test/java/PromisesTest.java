@@ -27,6 +27,7 @@ public final class PromisesTest {
         plan();
         planByReach();
         planManyApart();
+        planInward();
         planTen();
         planNone();
         poured();
@@ -455,6 +456,35 @@ public final class PromisesTest {
         }
         for (int i = 0; i < 5; i++) {
             DUE.is(19, "poured(" + i + ")", x.poured(i), order[i]);
+        }
+    }
+
+    /** HEMS from SHAPES told ahead to SHAPES told behind, inward: no two of a HEM on one DAY. */
+    private static void planInward() {
+        SandPalace x = new SandPalace();
+        x.rim(1, 0);
+        x.rim(1, 3);
+        x.rim(1, 4);
+        x.hem(0, 1, true);
+        x.hem(0, 2, true);
+        DUE.is(17, "days()", x.days(), 2);
+        DUE.is(18, "day(0)", x.day(0), 6);
+        x.sand(40);
+        DUE.is(17, "0 goes with neither", x.days(), 3);
+        DUE.is(18, "day(0)", x.day(0), 4);
+        DUE.is(18, "day(1)", x.day(1), 2);
+        DUE.is(18, "day(2)", x.day(2), 1);
+        SandPalace y = new SandPalace();
+        y.rim(1, 3);
+        y.rim(1, 5);
+        y.rim(1, 1);
+        y.hem(0, 1, true);
+        y.hem(2, 0, true);
+        DUE.is(17, "days()", y.days(), 3);
+        int[] order = {1, 0, 2};
+        for (int i = 0; i < 3; i++) {
+            DUE.is(18, "day(" + i + ")", y.day(i), 1 << order[i]);
+            DUE.is(19, "poured(" + i + ")", y.poured(i), order[i]);
         }
     }
 
