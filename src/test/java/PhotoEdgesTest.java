@@ -106,6 +106,7 @@ public final class PhotoEdgesTest {
         }
     }
 
+    /** "It is taken of the picture": as it was then, whatever is told or undone behind it. */
     private static void photoStaysAsItWasTaken() {
         SandPalace x = new SandPalace();
         x.rim(4, 7);
@@ -141,6 +142,7 @@ public final class PhotoEdgesTest {
         }
     }
 
+    /** "A cell of the PHOTO is SMEARED": that one, of the PHOTO, and no other. */
     private static void smearOneCellAlone() {
         for (int cell : new int[] {0, 1, 15, 16, 119, 120, 135, 136, 239, 240, 255}) {
             SandPalace x = new SandPalace();
@@ -185,6 +187,7 @@ public final class PhotoEdgesTest {
         }
     }
 
+    /** "n cells on (0 ..": with 0 the cell that it goes from is SMEARED still. */
     private static void catOfNought() {
         for (int[] stride : STRIDES) {
             SandPalace x = new SandPalace();
@@ -209,6 +212,7 @@ public final class PhotoEdgesTest {
         }
     }
 
+    /** "n cells on (.. 15": from wall to wall. */
     private static void catAllAlong() {
         SandPalace x = new SandPalace();
         for (int i = 0; i < 16; i++) {
@@ -388,6 +392,7 @@ public final class PhotoEdgesTest {
         DUE.is(23, "seen", seen(x, cellOf(0, 7, 3)), 2);
     }
 
+    /** "All SMEARED cells that can be": none is SMEARED, or none can be. */
     private static void mendNothing() {
         SandPalace x = new SandPalace();
         DUE.is(25, "of a new object", x.mend(), 0);
@@ -446,6 +451,7 @@ public final class PhotoEdgesTest {
         DUE.is(25, "harm(3)", y.harm(3), 2);
     }
 
+    /** "All SMEARED cells that can be": what is LOST or in QUARREL stays SMEARED. */
     private static void mendLeavesLostAndQuarrel() {
         SandPalace x = new SandPalace();
         for (int q = 0; q < 4; q++) {
@@ -470,6 +476,7 @@ public final class PhotoEdgesTest {
         Edges.taken(DUE, 26, "harm of all SMEARED", 0, 3, n -> allSmeared(new SandPalace()).harm(n));
     }
 
+    /** "How many cells are SMEARED (0), OFF (1), LOST (2), in QUARREL (3)": none, and all that can be. */
     private static void harmNoneAndAll() {
         int[][] due = {{0, 0, 0, 0}, {0, 256, 0, 0}, {256, 0, 256, 0}, {64, 192, 0, 64}};
         SandPalace x = new SandPalace();
@@ -529,6 +536,7 @@ public final class PhotoEdgesTest {
         DUE.is(27, "but by a HEM", x.again(), 3);
     }
 
+    /** "all SHAPES that have a SMEARED cell": also below others, not what is beside. */
     private static void againOfHiddenLayers() {
         SandPalace x = new SandPalace();
         x.rim(1, 2);

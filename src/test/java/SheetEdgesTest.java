@@ -148,6 +148,7 @@ public final class SheetEdgesTest {
         DUE.is(32, "also behind a drop", itemOf(y, 0, 2, 255), 0);
     }
 
+    /** "A SHEET holds a new row": that one, and no other. */
     private static void aNewRowOfAnySheet() {
         SandPalace x = new SandPalace();
         for (int s = 0; s < 4; s++) {
@@ -174,6 +175,7 @@ public final class SheetEdgesTest {
         }
     }
 
+    /** "A SHEET holds nothing": that one, and no other. */
     private static void dropOneAlone() {
         SandPalace x = new SandPalace();
         for (int s = 0; s < 4; s++) {
@@ -242,6 +244,7 @@ public final class SheetEdgesTest {
         }
     }
 
+    /** "Item i of a SHEET .. becomes v": that one, and no other. */
     private static void itemOneAlone() {
         for (int i : new int[] {0, 1, 31, 62, 63}) {
             SandPalace x = with(0, 0, 64);
@@ -347,6 +350,7 @@ public final class SheetEdgesTest {
         DUE.is(35, "three OFF", x.harm(1), 3);
     }
 
+    /** "n items of a SHEET, taken as a row of a LANE .. CAST": of any length, and of no items too. */
     private static void showCast() {
         for (int length : LENGTHS) {
             for (int lane = 0; lane < 3; lane++) {
@@ -406,6 +410,7 @@ public final class SheetEdgesTest {
         }
     }
 
+    /** "n cells of the PHOTO .. come to a SHEET": none, of a row of none, at its end. */
     private static void keepNone() {
         SandPalace x = with(0, 0, 0);
         DUE.is(36, "none to none", x.keep(0, 0, 0, 0, 0), 0);
@@ -419,6 +424,7 @@ public final class SheetEdgesTest {
         DUE.is(36, "the row stays", itemOf(x, 0, 0, 0), 7);
     }
 
+    /** "come to a SHEET, taken as a row of a LANE .. CAST": of any length, and of no items too. */
     private static void keepCast() {
         for (int length : LENGTHS) {
             for (int lane = 0; lane < 3; lane++) {

@@ -87,6 +87,7 @@ public final class SweepEdgesTest {
         }
     }
 
+    /** "What is refused changes nothing.": the bars, and a WAY by them. */
     private static void barRefusedStays() {
         SandPalace x = open(1, 0);
         way("ahead", x, 0, 1, 0);
@@ -120,6 +121,7 @@ public final class SweepEdgesTest {
         }
     }
 
+    /** "from a GATE from field to field": the shortest WAY is the GATE. */
     private static void wayOfTheGateAlone() {
         for (int gate = 0; gate < 4; gate++) {
             SandPalace x = open(GATES[gate]);
@@ -132,6 +134,7 @@ public final class SweepEdgesTest {
         }
     }
 
+    /** "each that is not BARRED once": with none left there is no GATE to go from. */
     private static void wayOfAllBarred() {
         for (int gate = 0; gate < 4; gate++) {
             noWay("all BARRED", barred(ALL), gate);
@@ -195,6 +198,7 @@ public final class SweepEdgesTest {
         DUE.is(30, "a GATE that names nothing", barred(ALL).wayAt(-1, 0), BAD);
     }
 
+    /** "each that is not BARRED": as the bars are, also if a WAY was asked for ahead of a change. */
     private static void wayByTheBarsAsTheyAre() {
         SandPalace x = new SandPalace();
         for (int gate = 0; gate < 4; gate++) {
@@ -296,6 +300,7 @@ public final class SweepEdgesTest {
         DUE.is(31, "a SHAPE without cells", x.heap(5), 0);
     }
 
+    /** "LAYERS of all cells": all fields together have as much as all SHAPES. */
     private static void heapOfAll() {
         SandPalace x = new SandPalace();
         x.rim(1, 7);

@@ -26,8 +26,10 @@ public final class WorkEdgesTest {
         oneSizeAboveSand();
         shapesWithoutCells();
         reachNeverLess();
+        reachNeverLessThanAnyAhead();
         reachAloneKeepsNothingApart();
         afterOfDaysAhead();
+        neverAheadOfWhatItComesAfter();
         fewestAheadOfGreatest();
         greatestNumberFirst();
         greatestOnLaterDays();
@@ -168,6 +170,7 @@ public final class WorkEdgesTest {
         }
     }
 
+    /** "if both have a cell": a DISC of 1 has none. */
     private static void afterOfAShapeWithoutCells() {
         SandPalace x = new SandPalace();
         x.disc(1, 1);
@@ -194,6 +197,7 @@ public final class WorkEdgesTest {
         DUE.is(8, "how many", x.told(9, 4), 2);
     }
 
+    /** "if both have a cell, and if it is told to HEM it": both at once, one without the other. */
     private static void afterByHemAndCell() {
         SandPalace x = new SandPalace();
         x.rim(1, 0);
@@ -263,6 +267,7 @@ public final class WorkEdgesTest {
         order("bare again", x);
     }
 
+    /** "all SHAPES in the fewest DAYS": all on one, and a DAY each. */
     private static void daysOneToTen() {
         for (int shapes = 1; shapes <= 10; shapes++) {
             SandPalace x = of(shapes);
@@ -363,6 +368,24 @@ public final class WorkEdgesTest {
         }
     }
 
+    /** One that comes AFTER two that reach further goes on a DAY with neither, told ahead of them or behind. */
+    private static void reachNeverLessThanAnyAhead() {
+        for (int inner = 0; inner < 3; inner++) {
+            SandPalace x = new SandPalace();
+            for (int s = 0; s < 3; s++) {
+                int v = s == inner ? 0 : 3 + s;
+                x.block(1, 0, v, s == inner ? 0 : 1 + s, v);
+            }
+            int other = inner == 0 ? 1 : 0;
+            int last = 3 - inner - other;
+            x.hem(inner, other, true);
+            x.hem(inner, last, true);
+            x.sand(Math.max(x.told(other, 2), x.told(last, 2)) + 4);
+            plan("SHAPE " + inner + " AFTER both", x, 1 << last, 1 << other, 1 << inner);
+        }
+    }
+
+    /** "one behind the other, REACH never less": the order on a DAY is not that in which they are told. */
     private static void reachAloneKeepsNothingApart() {
         SandPalace x = new SandPalace();
         for (int k = 7; k >= 0; k--) {
@@ -391,6 +414,37 @@ public final class WorkEdgesTest {
         plan("two and one", y, 3, 4);
         y.hem(1, 0, false);
         plan("the greatest", y, 6, 1);
+    }
+
+    /**
+     * Of the three one is told to be poured behind one that reaches further, and ahead of one that it can't share a DAY with:
+     * three DAYS, though two would be enough if it could go first. Whichever of the three is told first.
+     */
+    private static void neverAheadOfWhatItComesAfter() {
+        for (int turn = 0; turn < 3; turn++) {
+            int inner = turn;
+            int small = (turn + 1) % 3;
+            int outer = (turn + 2) % 3;
+            SandPalace x = new SandPalace();
+            for (int s = 0; s < 3; s++) {
+                int v = s == inner ? 0 : s == small ? 1 : 2;
+                x.block(1, 0, v, s == small ? 0 : 1, v);
+            }
+            x.hem(inner, small, true);
+            x.hem(outer, inner, true);
+            x.sand(12);
+            // of like REACH: both are of REACH 1, so that the small one and the inner one may share a DAY
+            plan("of like REACH", x, 1 << inner | 1 << small, 1 << outer);
+            SandPalace y = new SandPalace();
+            for (int s = 0; s < 3; s++) {
+                int v = s == inner ? 0 : s == small ? 2 : 3;
+                y.block(1, 0, v, s == small ? 0 : 1, v);
+            }
+            y.hem(inner, small, true);
+            y.hem(outer, inner, true);
+            y.sand(12);
+            plan("of more REACH", y, 1 << small, 1 << inner, 1 << outer);
+        }
     }
 
     /** SIZES 16, 20, 12, 16: by 3 and 2 on the first DAY there would be three. */
@@ -425,6 +479,7 @@ public final class WorkEdgesTest {
         plan("2 AFTER 1", y, 6, 1);
     }
 
+    /** "day by day: as bits the greatest number": of DAYS behind the first too. */
     private static void greatestOnLaterDays() {
         SandPalace x = of(7);
         x.sand(12);
@@ -460,6 +515,7 @@ public final class WorkEdgesTest {
         DUE.is(17, "the last one gone", y.days(), 1);
     }
 
+    /** "(There is none, if HEMS go round": also one HEM against what comes AFTER by a cell. */
     private static void hemsGoRoundByCells() {
         SandPalace x = new SandPalace();
         x.rim(1, 3);
@@ -473,6 +529,7 @@ public final class WorkEdgesTest {
         DUE.is(17, "by a cell and a HEM", x.days(), 1);
     }
 
+    /** "(There is none, if HEMS go round": two ways to one end are not round, nor are as many HEMS as can be. */
     private static void hemsThatDoNotGoRound() {
         SandPalace x = of(4);
         x.hem(3, 1, true);
@@ -524,6 +581,7 @@ public final class WorkEdgesTest {
         Edges.refusedBelow(DUE, 19, "poured of nothing", MOST, BAD, n -> new SandPalace().poured(n));
     }
 
+    /** BAD stands ahead of NONE, and no place below 0 is of any PLAN; any other is NONE without one. */
     private static void pouredBelowNoughtWithoutPlan() {
         SandPalace x = of(10);
         x.sand(3);
