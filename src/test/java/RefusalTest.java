@@ -28,6 +28,9 @@ public final class RefusalTest {
         changesNothing("a new object", SandPalace::new, refusedAlways(), refusedAtFirst());
         changesNothing("a few told", RefusalTest::ofSome, refusedAlways(), refusedWithSome());
         changesNothing("all full", RefusalTest::ofAll, refusedAlways(), refusedWithAll());
+        showNotChangesNothing("a new object", SandPalace::new);
+        showNotChangesNothing("a few told", RefusalTest::ofSome);
+        showNotChangesNothing("all full", RefusalTest::ofAll);
         DUE.end();
     }
 
@@ -430,13 +433,22 @@ public final class RefusalTest {
             });
             DUE.is(call.promise, what + ": changed by a refused " + call.name, Arrays.mismatch(whole, behind), -1);
         }
-        // NOT of show: a row with one that is no COLOUR can't be asked whole, so that the PHOTO alone is
-        SandPalace x = made.get();
-        int[] harm = {x.harm(0), x.harm(1), x.harm(2), x.harm(3), x.again()};
+    }
+
+    /** A row of which one item is no COLOUR: the first, one between, the last. */
+    private static SandPalace withWrongItem(SandPalace x, int i) {
         x.sheet(0, 0, 256);
-        x.item(0, 0, 255, 10);
-        DUE.is(35, what + ": show", x.show(0, 0, 0, 0, 256), NOT);
-        int[] now = {x.harm(0), x.harm(1), x.harm(2), x.harm(3), x.again()};
-        DUE.is(35, what + ": changed by a refused show", Arrays.mismatch(harm, now), -1);
+        for (int other = 0; other < 20; other++) {
+            x.item(0, 0, 12 * other, 1 + other % 9);
+        }
+        x.item(0, 0, i, 10);
+        return x;
+    }
+
+    private static void showNotChangesNothing(String what, Supplier<SandPalace> made) {
+        for (int i : new int[] {0, 100, 255}) {
+            List<Call> show = List.of(new Call(35, "show", x -> x.show(0, 0, 0, 0, 256), NOT));
+            changesNothing(what + ", item " + i + " wrong", () -> withWrongItem(made.get(), i), show, List.of());
+        }
     }
 }
